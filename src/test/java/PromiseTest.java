@@ -205,6 +205,18 @@ public final class PromiseTest {
         due.is("matched: second row", y.matched(1), 2);
         due.is("matched: third has none", y.matched(2), NONE);
         due.is("matched: fourth", y.matched(3), 3);
+        // row 1 goes ahead of row 3, though both find a column at first
+        ThinTables ahead = graph(5, 0, 0, 0, 2, 1, 0, 1, 1, 2, 0, 2, 3, 3, 3, 4, 1);
+        int[] dues = {2, 0, 3, NONE, 1};
+        for (int i = 0; i < 5; i++) {
+            due.is("matched: ahead", ahead.matched(i), dues[i]);
+        }
+        // a column that is left open on the way is taken by a later row
+        ThinTables open = graph(7, 0, 0, 0, 3, 1, 1, 1, 2, 2, 5, 3, 1, 3, 4, 5, 3, 5, 4, 5, 5, 5, 6, 6, 0, 6, 4);
+        int[] openDues = {0, 2, 5, 1, NONE, 3, 4};
+        for (int i = 0; i < 7; i++) {
+            due.is("matched: open", open.matched(i), openDues[i]);
+        }
         // row 0 without a PLACE is not in it
         ThinTables z = graph(2, 1, 1);
         due.is("matched: no place", z.matched(0), NONE);
@@ -233,6 +245,15 @@ public final class PromiseTest {
         due.is("heap: from the next row", x.heap(), 8 | 16);
         x.set(4, 4, 1);
         due.is("heap: none", x.heap(), 0);
+        // 20 rows over 19 columns that all hang together
+        ThinTables all = graph(20);
+        for (int i = 0; i < 19; i++) {
+            all.set(i + 1, i, 1);
+            all.set(i, i, 1);
+        }
+        all.set(18, 18, 0);
+        all.set(0, 18, 1);
+        due.is("heap: all rows", all.heap(), (1 << 20) - 1);
         due.is("heap: an empty row", graph(3, 0, 0, 2, 2).heap(), 2);
         due.is("heap: n is 1", graph(1).heap(), 1);
     }
@@ -288,6 +309,12 @@ public final class PromiseTest {
         due.is("rows(most)", x.rows(HIGHEST), 0);
         x.set(3, 3, 0);
         due.is("rows: RANK below n", x.rows(0), NOT);
+        ThinTables single = graph(20);
+        for (int i = 0; i < 20; i++) {
+            single.set(i, i, -1);
+        }
+        due.is("rows: a BLOCK each", single.rows(19), 1 << 19);
+        due.is("rows: no more BLOCKS", single.rows(20), 0);
         due.is("rows: RANK below n, none such", x.rows(-1), NOT);
     }
 

@@ -15,6 +15,7 @@ final class SlowTables {
     private int[] b = new int[4];
     private List<Integer> order = new ArrayList<>(List.of(0, 1, 2, 3));
     private int p = 10007;
+    private int[] known;
 
     // ---- the table
 
@@ -25,6 +26,7 @@ final class SlowTables {
         a = new int[n][n];
         b = new int[n];
         order = asTheyAre();
+        known = null;
         return was;
     }
 
@@ -32,6 +34,7 @@ final class SlowTables {
         if (out(i) || out(j) || v < -99 || v > 99) return OUTSIDE;
         int was = a[i][j];
         a[i][j] = v;
+        known = null;
         return was;
     }
 
@@ -116,7 +119,13 @@ final class SlowTables {
         return false;
     }
 
+    /** Kept until a cell changes, as tests ask for all rows of one table. */
     private int[] matching() {
+        if (known == null) known = newMatching();
+        return known;
+    }
+
+    private int[] newMatching() {
         int most = structural(0, new TreeSet<>());
         int[] columns = new int[n];
         Arrays.fill(columns, NONE);
