@@ -698,10 +698,12 @@ public final class ThinTables {
         /** Lets a NODE go; answers the set of those that it was joined to. */
         private static int letGo(int[] sets, int n, int gone) {
             int left = sets[gone];
-            for (int one = 0; one < n; one++) {
-                if (has(left, one)) {
+            int open = left;
+            for (int one = 0; one < n && open != 0; one++) {
+                if ((open & 1) != 0) {
                     sets[one] = (sets[one] | left) & ~(bit(one) | bit(gone));
                 }
+                open >>= 1;
             }
             return left;
         }
@@ -826,6 +828,7 @@ public final class ThinTables {
      */
     private static final class LeastFill {
         private static final int NODE_PART = 32;
+        private static final int HEAVIEST = 1 << 20;
 
         private int n;
         private final int[] weights = new int[1 << MOST_ROWS_LEAST_FILL];
@@ -866,15 +869,16 @@ public final class ThinTables {
         }
 
         private void weighSet(int gone, int[] near) {
-            int least = NONE;
-            for (int next = 0; next < n; next++) {
-                if (!has(gone, next)) {
+            int open = (bit(n) - 1) & ~gone;
+            int least = open == 0 ? 0 : HEAVIEST;
+            for (int next = 0; next < n && open != 0; next++) {
+                if ((open & 1) != 0) {
                     int sum = Integer.bitCount(near[next]) + weights[gone | bit(next)] / NODE_PART;
-                    int weight = sum * NODE_PART + next;
-                    least = least == NONE ? weight : Math.min(least, weight);
+                    least = Math.min(least, sum * NODE_PART + next);
                 }
+                open >>= 1;
             }
-            weights[gone] = Math.max(least, 0);
+            weights[gone] = least;
         }
     }
 
