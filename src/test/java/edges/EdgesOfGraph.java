@@ -150,6 +150,10 @@ final class EdgesOfGraph {
         s.is("n is 1", Made.sized(1).count(7), 1);
         s.is("the star's middle last", Made.star(20, 19).count(7), 2);
         s.is("the star's middle first", Made.star(20, 0).count(7), 20);
+        ThinTables x = Made.star(20, 0);
+        s.is("at first", x.count(7), 20);
+        x.change(0, 19);
+        s.is("less in another ORDER", x.count(7), 2);
         s.is("two ways, one longer", Made.graph(6, 0, 1, 2, 3, 3, 4, 4, 5).count(7), 4);
     }
 

@@ -15,6 +15,7 @@ final class EdgesOfMatching {
         firstRow();
         leastColumn();
         laterRows();
+        everySmallTable();
         heapFromLeastRow();
         heapGrows();
         heapHasFewerColumns();
@@ -100,6 +101,55 @@ final class EdgesOfMatching {
         }
     }
 
+    /** All tables of three rows and many of four: THE MATCHING of all that there are is told just by the words. */
+    private void everySmallTable() {
+        s.of("Terms 2", "row 0 is in it, if it can be in one of RANK PLACES; with the least column that lets it; "
+                + "row 1 likewise, as that is; and so on.");
+        for (int bits = 0; bits < 512; bits++) {
+            smallTable(3, bits);
+        }
+        for (int bits = 0; bits < 1 << 16; bits += 7) {
+            smallTable(4, bits);
+        }
+    }
+
+    private void smallTable(int n, int bits) {
+        ThinTables x = Made.sized(n);
+        for (int k = 0; k < n * n; k++) {
+            x.set(k / n, k % n, bits >> k & 1);
+        }
+        int[] columns = new int[n];
+        int rank = most(n, bits, 0, 0);
+        int taken = 0;
+        for (int row = 0; row < n; row++) {
+            columns[row] = NONE;
+            for (int j = 0; j < n && columns[row] == NONE; j++) {
+                boolean free = (bits >> row * n + j & 1) != 0 && (taken >> j & 1) == 0;
+                int with = Integer.bitCount(taken) + 1;
+                if (free && with + most(n, bits, row + 1, taken | 1 << j) == rank) {
+                    columns[row] = j;
+                    taken |= 1 << j;
+                }
+            }
+            s.is("row " + row + " of table " + bits, x.matched(row), columns[row]);
+        }
+        s.is("RANK of table " + bits, x.count(2), rank);
+    }
+
+    /** The most PLACES of a MATCHING of the rows from this one on, without the columns taken: all are tried. */
+    private static int most(int n, int bits, int row, int taken) {
+        if (row == n) {
+            return 0;
+        }
+        int best = most(n, bits, row + 1, taken);
+        for (int j = 0; j < n; j++) {
+            if ((bits >> row * n + j & 1) != 0 && (taken >> j & 1) == 0) {
+                best = Math.max(best, 1 + most(n, bits, row + 1, taken | 1 << j));
+            }
+        }
+        return best;
+    }
+
     private void heapFromLeastRow() {
         s.of("Terms 2", "THE HEAP, if RANK is below n: the rows that are come to from the least row that "
                 + "THE MATCHING has not: it;");
@@ -163,6 +213,10 @@ final class EdgesOfMatching {
         s.is("all rows", ring.rows(0), ALL);
         s.is("two rows, straight", Made.dense(2, 1).rows(0), 3);
         s.is("one way is not enough", Made.graph(2, 0, 0, 0, 1, 1, 1).count(3), 2);
+        ThinTables less = Made.dense(2, 1);
+        s.is("both ways", less.count(3), 1);
+        less.set(1, 0, 0);
+        s.is("one way is left", less.count(3), 2);
         // row 1 leads to row 0 and comes back by row 2
         s.is("by another", Made.graph(3, 0, 0, 0, 2, 1, 1, 1, 0, 2, 2, 2, 1).count(3), 1);
     }

@@ -220,11 +220,11 @@ final class EdgesOfRests {
     private void solutionsCheck() {
         s.of("Terms 4", "SOLUTION: x with THE TABLE times x as THE SIDE, by rests of P.");
         for (int p : PRIMES) {
-            for (int n : new int[] {1, 2, 5, 19}) {
+            for (int n : new int[] {1, 2, 5, 20}) {
                 ThinTables x = new Product(n, false, 7L * n + p).object(p);
                 int[] solution = new int[n];
                 for (int i = 0; i < n; i++) {
-                    x.side(i, 99 - 11 * i);
+                    x.side(i, 99 - 10 * i);
                 }
                 for (int i = 0; i < n; i++) {
                     solution[i] = x.solution(i);
@@ -237,7 +237,7 @@ final class EdgesOfRests {
                         sum += (long) same.cell(k, m) * solution[same.order[m]];
                     }
                     s.is("row " + k + " of " + n + " by " + p, Math.floorMod(sum, p),
-                            Math.floorMod(99 - 11 * same.order[k], p));
+                            Math.floorMod(99 - 10 * same.order[k], p));
                 }
             }
         }

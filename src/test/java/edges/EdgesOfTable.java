@@ -242,12 +242,14 @@ final class EdgesOfTable {
                 + " 0".repeat(25)));
         Made.side(x, 9, 9, 9, 9, 9);
         x.set(4, 4, 9);
+        x.set(4, 3, 9);
         x.change(1, 4);
         s.is("down to 1", x.size(1), 5);
         s.is("what was there is out", x.cell(4, 4), OUTSIDE);
         s.is("up to 20", x.size(20), 1);
         s.is("no cell comes back", x.cell(4, 4), 0);
         s.is("no PLACE comes back", x.count(1), 0);
+        s.is("no JOINED pair comes back", x.count(4), 0);
         s.is("no value of THE SIDE comes back", x.side(4, 0), 0);
         s.is("THE ORDER is as they are", x.node(1, 0), 1);
         s.is("up to its last", x.node(19, 0), 19);
@@ -311,6 +313,7 @@ final class EdgesOfTable {
         ThinTables all = Made.dense(20, 1);
         ThinTables one = Made.sized(1);
         count("How many: 0 rows", 0, one, 1, none, 20);
+        s.is("all joined", all.count(0), 20);
         count("1 PLACES", 1, none, 0, all, 400);
         count("2 RANK", 2, none, 0, all, 20);
         count("3 BLOCKS", 3, all, 1, Made.diagonal(20, -99), 20);
