@@ -22,6 +22,10 @@ final class Sentences {
 
     Sentences(Due due) throws IOException {
         this.due = due;
+        if (!Files.isReadable(DOCUMENT)) {
+            System.out.println("without " + DOCUMENT + " the quoted sentences can't be looked up; the answers can");
+            return;
+        }
         String document = Files.readString(DOCUMENT);
         add("What it is", between(document, "An object is used", "## The public face"));
         add("Terms", between(document, "## Terms\n", "======== 1"));
@@ -51,6 +55,9 @@ final class Sentences {
     /** What is asked from now on holds this sentence. */
     void of(String part, String sentence) {
         now = part + " \"" + sentence + "\"";
+        if (texts.isEmpty()) {
+            return;
+        }
         String text = texts.getOrDefault(part, "");
         int at = text.indexOf(sentence);
         due.holds(now + " does not stand in the document", at >= 0);
