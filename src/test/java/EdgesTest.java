@@ -8,6 +8,7 @@ public final class EdgesTest {
     public static void main(String[] args) throws IOException {
         Due due = new Due();
         Sentences sentences = new Sentences(due);
+        new EdgesOfDocument(sentences).run();
         new EdgesOfTable(sentences).run();
         new EdgesOfMatching(sentences).run();
         new EdgesOfGraph(sentences).run();

@@ -15,6 +15,7 @@ import java.util.regex.Pattern;
 /** The public face, and those rules of LANGUAGE.md that can be seen from the class and its text. */
 public final class FaceTest {
     private static final Path SOURCE = Path.of("src/main/java/ThinTables.java");
+    private static final Path DOCUMENT = Path.of("../shared/DOC.md");
     private static final List<String> FACE = List.of(
             "block(int):int", "cell(int,int):int", "change(int,int):int", "changed(int,int,int):int",
             "columns(int):int", "count(int):int", "determinant():int", "exact(int,int):long",
@@ -36,6 +37,11 @@ public final class FaceTest {
         words(text);
         calls(text);
         lengths(text);
+        if (Files.isReadable(DOCUMENT)) {
+            String document = Files.readString(DOCUMENT);
+            linesOfFace(document, text);
+            headings(document, text);
+        }
         due.end();
     }
 
@@ -144,6 +150,46 @@ public final class FaceTest {
                 start = -1;
             }
         }
+    }
+
+    /** Each line of the document's face stands in the text, in the same order. */
+    private static void linesOfFace(String document, String text) {
+        int start = document.indexOf("```java");
+        int end = document.indexOf("\n```", start);
+        due.holds("the document has a face", start >= 0 && end > start);
+        int at = 0;
+        int lines = 0;
+        for (String line : document.substring(Math.max(0, start), Math.max(0, end)).split("\n")) {
+            String wanted = line.strip().endsWith(");") ? line.strip().replace(");", ") {") : line.strip();
+            if (wanted.startsWith("public ")) {
+                int found = text.indexOf(wanted, at);
+                due.holds("the text has, after what the face has before it: " + wanted, found >= at);
+                at = Math.max(at, found);
+                lines++;
+            }
+        }
+        // the class, its constants, its constructor
+        due.is("lines of the face", lines, FACE.size() + 3);
+    }
+
+    /** What the document says ahead of some calls stands in the text ahead of just these. */
+    private static void headings(String document, String text) {
+        Matcher said = Pattern.compile("Ahead of the calls (.*) the interface says: (---- .*)\\.").matcher(document);
+        int headings = 0;
+        while (said.find()) {
+            headings++;
+            int start = text.indexOf("// " + said.group(2) + "\n");
+            int end = text.indexOf("// ----", start + 1);
+            due.holds("the text has " + said.group(2), start >= 0 && end > start);
+            StringBuilder found = new StringBuilder();
+            Matcher calls = Pattern.compile("(?m)^ {4}public \\w+ (\\w+)\\(").matcher(
+                    text.substring(Math.max(0, start), Math.max(0, end)));
+            while (calls.find()) {
+                found.append(found.length() == 0 ? "`" : ", `").append(calls.group(1)).append('`');
+            }
+            due.holds("the calls behind " + said.group(2) + " are " + found, said.group(1).contentEquals(found));
+        }
+        due.is("headings", headings, 5);
     }
 
     private static int indent(String line) {

@@ -27,7 +27,7 @@ final class Sentences {
             return;
         }
         String document = Files.readString(DOCUMENT);
-        add("What it is", between(document, "An object is used", "## The public face"));
+        add("What it is", between(document, "## What it is\n", "## The public face"));
         add("Terms", between(document, "## Terms\n", "======== 1"));
         for (int k = 1; k <= TERMS; k++) {
             add("Terms " + k, between(document, "======== " + k, k < TERMS ? "======== " : "Ahead of the calls"));
@@ -35,6 +35,7 @@ final class Sentences {
         for (int k = 1; k <= PROMISES; k++) {
             add("Promise " + k, between(document, "## Promise " + k + ":", "\n## "));
         }
+        add("Not promised", document.substring(Math.max(0, document.indexOf("## Not promised\n"))));
     }
 
     private static String between(String document, String start, String end) {
